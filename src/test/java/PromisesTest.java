@@ -162,6 +162,7 @@ public final class PromisesTest {
         looks(BLOCK, 0, 4, 2, 2, 8, 1, 1, 2);
         looks(L, 0, 4, 3, 2, 10, 4, 8, 1);
         looks(T, 1, 4, 3, 2, 10, 4, 4, 0);
+        looks(1794, 1, 4, 3, 2, 10, 4, 4, 0);
         looks(S, 0, 4, 3, 2, 10, 2, 4, 1);
         looks(Z, 0, 4, 3, 2, 10, 2, 4, 1);
         looks(U, 2, 5, 3, 2, 12, 4, 4, 0);
@@ -171,6 +172,8 @@ public final class PromisesTest {
         // A ring that lacks its corner still has a hole; one that lacks a side has none.
         looks(RING - 1, 3, 7, 3, 3, 16, 4, 4, 0);
         looks(RING - 256, 4, 7, 3, 3, 16, 4, 4, 0);
+        looks(RING - 1024, 4, 7, 3, 3, 16, 4, 4, 0);
+        looks(RING - 2, 2, 7, 3, 3, 16, 4, 4, 0);
         // Open at the left: a gap in a column alone.
         looks(460295, 4, 8, 3, 3, 14, 4, 4, 0);
         looks(255, 0, 8, 8, 1, 18, 2, 2, 1);
@@ -235,6 +238,7 @@ public final class PromisesTest {
         due("same(0, 1)", x.same(0, 1), 2);
         due("same(0, 2)", x.same(0, 2), 1);
         due("same(3, 0)", x.same(3, 0), 1);
+        due("same(0, 3)", x.same(0, 3), 1);
         due("same(0, 4)", x.same(0, 4), 0);
         due("same(5, 4)", x.same(5, 4), 0);
         for (int heap : NO_HEAPS) {
@@ -357,10 +361,21 @@ public final class PromisesTest {
         due("put(0, 0, -1, 1), full", x.put(0, 0, -1, 1), -7);
         due("put(0, 0, 0, 0), full", x.put(0, 0, 0, 0), -6);
         due("put(0, 12, 0, 0), full", x.put(0, 12, 0, 0), -3);
-        x = bench(127, ONE);
-        due("put(0, 1, 7, 0)", x.put(0, 1, 7, 0), 2);
-        due("put(1, 0, -7, 0)", x.put(1, 0, -7, 0), 3);
-        due("a row of 8", x.set(3), 255);
+        x = bench(127, ONE, 0x01010101010101L, 257);
+        due("put(0, 1, 7, 0)", x.put(0, 1, 7, 0), 4);
+        due("put(1, 0, -7, 0)", x.put(1, 0, -7, 0), 5);
+        due("a row of 8", x.set(5), 255);
+        due("put(2, 1, 0, 7)", x.put(2, 1, 0, 7), 6);
+        due("put(1, 2, 0, -7)", x.put(1, 2, 0, -7), 7);
+        due("a column of 8", x.set(7), 0x0101010101010101L);
+        // A column of 9 has no room, not even with its end cut off.
+        due("put(2, 3, 0, 7)", x.put(2, 3, 0, 7), -6);
+        due("put(2, 3, 0, -2)", x.put(2, 3, 0, -2), -6);
+        due("put(3, 2, 0, 2)", x.put(3, 2, 0, 2), -6);
+        due("put(3, 2, 0, -7)", x.put(3, 2, 0, -7), -6);
+        due("put(0, 0, 7, 0)", x.put(0, 0, 7, 0), -6);
+        due("grow(7, above)", x.grow(7, told(0, -1)), -6);
+        due("grow(7, below)", x.grow(7, told(0, 8)), -6);
     }
 
     private static void promise13To14() {
@@ -783,6 +798,17 @@ public final class PromisesTest {
         due("without sorts", x.strip(2, 4), 0);
         due("without sorts and columns", x.strip(2, 0), 1);
         due("status(NO)", x.status(-6), 3);
+        // Sorts with eight forms each, on a strip and on a ground.
+        HeapSquares z = layings(0, 775, 527, L, 3847);
+        for (int w = 1; w <= 4; w++) {
+            for (int n = 1; n <= 4; n++) {
+                z.ground(box(n, w));
+                due("as many as all() on " + w + " by " + n, z.strip(w, n), z.all());
+            }
+        }
+        z = layings(0, 0x01010101L);
+        due("a sort that is high 4", z.strip(4, 4), 2);
+        due("status(NO)", z.status(-6), 0);
         // Sorts that are alike are counted apart: powers of 4 up to 10 to the power of 15.
         for (int i = 0; i < 4; i++) {
             x.sort(4, 1);
