@@ -865,8 +865,7 @@ public final class HeapSquares {
         }
 
         private boolean isTaken(int i) {
-            return i >= 0 && i < depth && i < takenChoice.length
-                && takenChoice[i] >= 0 && takenChoice[i] < MOST_CHOICES;
+            return i >= 0 && i < depth && i < takenChoice.length && isChoice(takenChoice[i]);
         }
 
         /** Goes on to the next laying: 1, 0 if there is none, SPENT. */
@@ -883,7 +882,7 @@ public final class HeapSquares {
                     return 1;
                 }
                 skipSortsWithoutCopies();
-                if (nextChoice < choices) {
+                if (isChoice(nextChoice)) {
                     if (triesMade == MOST) {
                         return SPENT;
                     }
@@ -896,9 +895,14 @@ public final class HeapSquares {
         }
 
         private void skipSortsWithoutCopies() {
-            while (nextChoice < choices && nextChoice < MOST_CHOICES && copiesLeft[choiceSort[nextChoice]] == 0) {
+            while (isChoice(nextChoice) && copiesLeft[choiceSort[nextChoice]] == 0) {
                 nextChoice++;
             }
+        }
+
+        private boolean isChoice(int choice) {
+            return choice >= 0 && choice < choices && choice < MOST_CHOICES
+                && choiceSort[choice] >= 0 && choiceSort[choice] < MOST_SORTS;
         }
 
         private void tryNextChoice() {
