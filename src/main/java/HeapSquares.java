@@ -895,7 +895,10 @@ public final class HeapSquares {
         }
 
         private void skipSortsWithoutCopies() {
-            while (isChoice(nextChoice) && copiesLeft[choiceSort[nextChoice]] == 0) {
+            for (int i = 0; i < MOST_CHOICES; i++) {
+                if (!isChoice(nextChoice) || copiesLeft[choiceSort[nextChoice]] != 0) {
+                    return;
+                }
                 nextChoice++;
             }
         }

@@ -3,6 +3,7 @@ public final class StripRowEdgesTest extends Sentences {
     private static final long ONE = draw("#");
     private static final long TWO = draw("##");
     private static final long CORNER = draw("##", "#");
+    private static final long L = draw("###", "#");
     private static final long ROW8 = draw("########");
     private static final long COLUMN8 = draw("#", "#", "#", "#", "#", "#", "#", "#");
 
@@ -128,9 +129,12 @@ public final class StripRowEdgesTest extends Sentences {
         test("just below 10^15: how many there are", () -> {
             HeapSquares x = layings(0, CORNER, draw("#.#", "###"), CORNER, draw("###", "##"));
             due("strip(4, 20)", x.strip(4, 20), 999922337730944L);
+            HeapSquares y = layings(0, ONE, L, draw(".#.#", "####", ".#"), draw("..#", "..#", "####", "#"));
+            due("strip(4, 18)", y.strip(4, 18), 999993469497435L);
         });
         test("just above 10^15: FULL, 0 likewise", () -> {
-            HeapSquares x = layings(0, TWO, draw("###", "#"), draw("####", "#"), draw(".#.", "###", ".#."));
+            // There are 1000029842098607 for 18 columns.
+            HeapSquares x = layings(0, TWO, L, draw("####", ".#", ".#"), draw("####", "#", "#", "#"));
             untold(x, FULL, "strip(4, 18)", () -> x.strip(4, 18));
             untold(x, FULL, "strip(4, 19)", () -> x.strip(4, 19));
         });
